@@ -503,18 +503,25 @@ public final class MarkedBody {
                 start++;
             }
             sort = start < length ? sortOf(bytes[start]) : END;
-            boolean goesOn = sort != END;
-            size = 0;
-            number = 0;
-            while (goesOn && start + size < length) {
-                // Too many figures make no TOKEN, so a number that wraps is never used.
-                number = 10 * number + bytes[start + size] - '0';
-                size++;
-                boolean isRun = sort == NAME || sort == NUMBER;
-                goesOn = isRun && start + size < length && sortOf(bytes[start + size]) == sort;
+            int end = sort == END ? start : start + 1;
+            boolean isRun = sort == NAME || sort == NUMBER;
+            while (isRun && end < length && sortOf(bytes[end]) == sort) {
+                end++;
             }
-            if (sort == NUMBER && size > MOST_FIGURES) {
+            size = end - start;
+            if (sort == NUMBER) {
+                takeFigures();
+            }
+        }
+
+        private void takeFigures() {
+            if (size > MOST_FIGURES) {
                 sort = WRONG;
+                return;
+            }
+            number = 0;
+            for (int i = 0; i < size; i++) {
+                number = 10 * number + bytes[start + i] - '0';
             }
         }
 

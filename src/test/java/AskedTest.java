@@ -43,6 +43,7 @@ public final class AskedTest {
         x.set(0, 2, 3);
         x.set(0, 8, 4);
         Check.due("an item", Check.BAD, x.buyers(0, 1, 8));
+        Check.due("an item behind them is not looked at", 2, x.buyers(0, 6, 2));
         Check.due("nothing came", 0, x.who(1));
         x.set(0, 8, -1);
         Check.due("an item below 0", Check.BAD, x.buyers(0, 1, 8));

@@ -63,6 +63,9 @@ public final class KindsTest {
         Check.due("of no marks the empty one", 1, x.many());
         Check.due("bad", Check.BAD, x.idle(3));
         Check.due("bad", Check.BAD, x.idle(-1));
+        x = Check.told("mark root may;");
+        Check.due("none dead", 0, x.idle(0));
+        Check.due("none sure", 0, x.idle(1));
         x = Check.told("mark root must;mark root may;mark root may;mark 1 may;law not 2;law not 2 or 1;law 0;"
                 + "law not 3 or 2;");
         Check.due("many", 2, x.many());
@@ -105,6 +108,7 @@ public final class KindsTest {
         Check.due("the fewest unlike", 9, x.nearest(8));
         Check.due("bad", Check.BAD, x.nearest(128));
         Check.due("bad", Check.BAD, x.nearest(-1));
+        Check.due("the highest kind", 1, Check.told("mark root must;").nearest(0));
         Check.read(x, "law not 0;");
         Check.due("none", Check.NONE, x.nearest(3));
         Check.due("bad ahead of none", Check.BAD, x.nearest(128));

@@ -154,6 +154,12 @@ public final class LinesTest {
         Check.due("one of the four is barred", 7, x.together(0, 2));
         Check.read(x, "law not 0 or 1;");
         Check.due("all are barred", Check.NONE, x.together(0, 1));
+        String[] barred = {"not 0 and not 1", "0 and not 1", "not 0 and 1", "0 and 1"};
+        for (String one : barred) {
+            x = Check.told("mark root may;mark root may;line plain set 0 5;law not (" + one + ");");
+            Check.due("barred: " + one, Check.NONE, x.together(0, 1));
+            Check.due("barred: " + one, Check.NONE, x.together(1, 0));
+        }
     }
 
     private static void hold() {
@@ -164,6 +170,7 @@ public final class LinesTest {
         }
         Check.due("no more", Check.NONE, x.hold(4));
         Check.due("bad", Check.BAD, x.hold(-2));
+        Check.due("the highest kind", 3, Check.told("mark root must;mark root must;").hold(0));
         Check.due("one mark has no pairs", 0, Check.told("mark root may;").hold(-1));
         Check.read(x, "law not (0 and 1);");
         Check.due("anew behind a text", 5, x.hold(-1));
@@ -189,6 +196,7 @@ public final class LinesTest {
         Check.due("2: 0 not 1 not 2", 1, x.failing(2, 0));
         Check.due("2: no saying of two", Check.NONE, x.failing(2, 1));
         Check.due("1: not 0 and not 2 ahead of 1 and not 2", 20 + 20 + 5, x.failing(1, 1));
+        Check.due("0", 0, x.failing(0, 0));
         Check.due("999", 0, x.failing(999, 0));
         Check.due("999", Check.NONE, x.failing(999, 1));
         Check.read(x, "law not (0 and not 1);");

@@ -69,6 +69,8 @@ public final class TextsTest {
         Check.fault(x, "mark ; may;", 5, 1);
         Check.fault(x, "mark root 0;", 10, 1);
         Check.fault(x, "mark root may mark", 14, 1);
+        Check.fault(x, "mark root mayz;", 10, 1);
+        Check.fault(x, "amark root may;", 0, 1);
         Check.fault(x, "mark root must;mark 1 one;", 20, 2);
         Check.due("an earlier one of the same text", 0, Check.read(x, "mark root must;mark 0 one;"));
         Check.fault(x, "mark 2 may;", 5, 2);
@@ -102,13 +104,17 @@ public final class TextsTest {
         Check.fault(x, "law ((not (not 0", 16, 1);
         Check.fault(x, "law ((not ((not 0))));", 12, 3);
         Check.fault(x, "law (((((0 and (1))))));", 15, 3);
+        Check.due("deepest with parts at each", 0, Check.read(x, "law 0 or 1 and (0 or 1 and (0 or 1 and (0 or 1 "
+                + "and (0 or 1 and (0 or 1)))));"));
+        Check.due("deepest holds", 1, x.holds(0, 3, 2));
+        Check.due("deepest does not", 0, x.holds(0, 3, 0));
         Check.due("not of one atom", 0, Check.read(x, "law not 0 and 1;"));
-        Check.due("not binds first", 1, x.holds(0, 3, 2));
-        Check.due("not binds first", 0, x.holds(0, 3, 0));
+        Check.due("not binds first", 1, x.holds(0, 4, 2));
+        Check.due("not binds first", 0, x.holds(0, 4, 0));
         Check.due("and ahead of or", 0, Check.read(x, "law 0 or 0 and 1;"));
-        Check.due("and ahead of or", 1, x.holds(0, 4, 1));
+        Check.due("and ahead of or", 1, x.holds(0, 5, 1));
         Check.due("in brackets", 0, Check.read(x, "law (0 or 0) and 1;"));
-        Check.due("in brackets", 0, x.holds(0, 5, 1));
+        Check.due("in brackets", 0, x.holds(0, 6, 1));
     }
 
     private static void lines() {
@@ -171,5 +177,9 @@ public final class TextsTest {
         Check.due("no buyer", Check.NONE, x.line(1, 1));
         Check.due("no saying", 0, x.line(1, 4));
         Check.due("always", 1, x.holds(1, 1, 0));
+        Check.fault(x, "line other set 0 1;line patch 1 set 0 1;x", 40, 1);
+        Check.due("an other that did not come replaces nothing", 0b11, x.body(0, 0, Check.NONE));
+        Check.due("nor makes an idler", 1, x.kind(1));
+        Check.due("nor is counted", 0, x.count(5));
     }
 }
