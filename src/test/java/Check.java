@@ -2,14 +2,22 @@
 final class Check {
     static final int NONE = MarkedBody.NONE, BAD = MarkedBody.BAD, STATE = MarkedBody.STATE, FULL = MarkedBody.FULL;
     static final int NULL = -1000011, PLACE = -1000012, KIND = -1000013, SIZE = -1000014, STORE = -1000015;
+    static final int LEAST = Integer.MIN_VALUE, MOST = Integer.MAX_VALUE;
     private static int wrong = 0;
     private static int seen = 0;
+    private static String sentence = "";
+
+    /** The sentence of the document that the next answers are due by. */
+    static void sentence(String words) {
+        sentence = words;
+    }
 
     static void due(String call, long want, long got) {
         seen++;
         if (want != got) {
             wrong++;
-            System.out.println(call + " answered " + got + ", due is " + want);
+            String by = sentence.isEmpty() ? "" : " [" + sentence + "]";
+            System.out.println(call + " answered " + got + ", due is " + want + by);
         }
     }
 
@@ -24,17 +32,27 @@ final class Check {
     static void feed(MarkedBody x, String text) {
         for (int at = 0; at < text.length(); at += 8) {
             int n = Math.min(8, text.length() - at);
-            long w = 0;
-            for (int i = 0; i < n; i++) {
-                w = w << 8 | text.charAt(at + i) & 255;
-            }
-            x.feed(w, n);
+            x.feed(word(text.substring(at, at + n)), n);
         }
+    }
+
+    /** Up to eight bytes, the first of them the highest. */
+    static long word(String bytes) {
+        long w = 0;
+        for (int i = 0; i < bytes.length(); i++) {
+            w = w << 8 | bytes.charAt(i) & 255;
+        }
+        return w;
     }
 
     static int read(MarkedBody x, String text) {
         feed(x, text);
         return x.read();
+    }
+
+    /** A text that is read without a FAULT: so many LINES there are then. */
+    static void good(MarkedBody x, String text, int lines) {
+        due("read of '" + text + "'", lines, read(x, text));
     }
 
     static MarkedBody told(String text) {
@@ -46,7 +64,7 @@ final class Check {
         return x;
     }
 
-    /** The text has a FAULT at a place (below 0: none), and what is due of it. */
+    /** The text has a FAULT at a place, and what is due of it. */
     static void fault(MarkedBody x, String text, int place, int number) {
         due("read of '" + text + "'", -1000100 - place, read(x, text));
         due("fault of '" + text + "'", number, x.fault());
