@@ -17,6 +17,8 @@ public final class RefusedTest {
         refusedOfFull();
         tell = x -> { };
         refusedOfNew();
+        Check.sentence("Terms: the first of these that fits: BAD, STATE, FULL, then FINDINGS, of several the first in time");
+        firstThatFits();
         Check.sentence("Promise 7: nothing comes");
         tell = RefusedTest::tellMuch;
         faults();
@@ -195,6 +197,29 @@ public final class RefusedTest {
         Twins.refused("buyer", tell, x -> x.buyer(0, 1, 1), Check.BAD);
         Twins.refused("as", tell, x -> x.as(0, 0), Check.BAD);
         Twins.refused("ask", tell, x -> x.ask(0, 0), Check.BAD);
+    }
+
+    private static void firstThatFits() {
+        tell = RefusedTest::tellMuch;
+        Twins.refused("BAD ahead of SIZE: sheet", tell, x -> x.sheet(8, 0, -1), Check.BAD);
+        Twins.refused("BAD ahead of SIZE: lane", tell, x -> x.sheet(2, 3, -1), Check.BAD);
+        Twins.refused("BAD ahead of PLACE: set", tell, x -> x.set(8, -1, 0), Check.BAD);
+        Twins.refused("NULL ahead of PLACE: set", tell, x -> x.set(3, -1, 0), Check.NULL);
+        Twins.refused("BAD ahead of NULL: copy", tell, x -> x.copy(3, -1, 8, -1, -1), Check.BAD);
+        Twins.refused("BAD ahead of NULL: copy", tell, x -> x.copy(8, -1, 3, -1, -1), Check.BAD);
+        Twins.refused("NULL ahead of PLACE: copy", tell, x -> x.copy(2, -1, 3, -1, -1), Check.NULL);
+        Twins.refused("STORE ahead of PLACE: copy", tell, x -> x.copy(0, -1, 1, 99, -1), Check.STORE);
+        Twins.refused("BAD ahead of NULL: buyers", tell, x -> x.buyers(3, 0, 9), Check.BAD);
+        Twins.refused("NULL ahead of PLACE: buyers", tell, x -> x.buyers(3, -1, 8), Check.NULL);
+        Twins.refused("BAD ahead of PLACE: buyers", tell, x -> x.buyers(2, -1, 0), Check.BAD);
+        Twins.refused("PLACE ahead of an ITEM: buyers", tell, x -> x.buyers(2, 10, 3), Check.PLACE);
+        Twins.refused("BAD ahead of KIND: as", tell, x -> x.as(8, 4), Check.BAD);
+        Twins.refused("BAD ahead of KIND: as", tell, x -> x.as(0, -1), Check.BAD);
+        Twins.refused("BAD ahead of NONE: forced", tell, x -> x.forced(0, 1, 2), Check.BAD);
+        tell = RefusedTest::fillUp;
+        Twins.refused("BAD ahead of FULL: feed", tell, x -> x.feed(32, 0), Check.BAD);
+        Twins.refused("FULL: feed", tell, x -> x.feed(32, 8), Check.FULL);
+        Twins.refused("STATE: end", tell, x -> x.end(22), Check.STATE);
     }
 
     private static void faults() {
